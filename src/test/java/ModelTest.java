@@ -3,9 +3,9 @@ import java.util.Random;
 
 /** Long runs from fixed seeds: the class against the plain lift, call by call. */
 public final class ModelTest {
-    private static final int RUNS = 5000;
+    private static final int RUNS = 6000;
     // With the questions in between no object gets more than the 512 calls that are promised.
-    private static final int CALLS = 160;
+    private static final int CALLS = 136;
     private static final int QUESTIONS_ABOUT_A_CAR = 14;
     private static final int[] WILD = {-1, -2, 21, 1000000, Integer.MAX_VALUE, Integer.MIN_VALUE};
     private static final int[] STEPS = {1, 1, 1, 1, 2, 2, 3, 4, 5, 7, 11, 20, 40, 90, 1000};
