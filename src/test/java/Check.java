@@ -29,6 +29,19 @@ final class Check {
         }
     }
 
+    /** One step for each speed that is due. */
+    void speeds(String what, CarSteps x, int car, int... due) {
+        for (int k = 0; k < due.length; k++) {
+            x.steps(1);
+            is(what + ", speed in step " + (k + 1), x.told(car, 1), due[k]);
+        }
+    }
+
+    void door(String what, CarSteps x, int car, int state, int place) {
+        is(what + ", door", x.told(car, 3), state);
+        is(what + ", place of the door", x.told(car, 4), place);
+    }
+
     void argument(String what, Call call) {
         refused(what, call, IllegalArgumentException.class);
     }

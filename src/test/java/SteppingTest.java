@@ -33,13 +33,6 @@ public final class SteppingTest {
         return x;
     }
 
-    private static void speeds(String what, CarSteps x, int car, int... due) {
-        for (int k = 0; k < due.length; k++) {
-            x.steps(1);
-            CHECK.is(what + ", speed in step " + (k + 1), x.told(car, 1), due[k]);
-        }
-    }
-
     private static void steps() {
         CarSteps x = oneCar(3, 0);
         CHECK.argument("0 steps", () -> x.steps(0));
@@ -63,18 +56,18 @@ public final class SteppingTest {
         CarSteps x = oneCar(3, 0);
         x.go(0, 1);
         // At 700 there are 300 left: 100 + 80 + 60 + 40 + 20.
-        speeds("1000 up", x, 0, 20, 40, 60, 80, 100, 100, 100, 100, 100, 100, 80, 60, 40, 20);
+        CHECK.speeds("1000 up", x, 0, 20, 40, 60, 80, 100, 100, 100, 100, 100, 100, 80, 60, 40, 20);
         CHECK.is("there", x.told(0, 0), 1000);
         CHECK.is("the call is not over while it goes", x.told(0, 5), 1);
         CHECK.is("CLOSED", x.told(0, 3), 0);
-        speeds("1000 up", x, 0, 0);
+        CHECK.speeds("1000 up", x, 0, 0);
         CHECK.is("the call is over", x.told(0, 5), 0);
         CHECK.is("OPENING in the landing step", x.told(0, 3), 1);
         CHECK.is("one place in that step", x.told(0, 4), 1);
         x.steps(29);
         CHECK.is("CLOSED again", x.told(0, 3), 0);
         x.go(0, 0);
-        speeds("1000 down", x, 0, -20, -40, -60);
+        CHECK.speeds("1000 down", x, 0, -20, -40, -60);
         CHECK.is("down", x.told(0, 0), 880);
     }
 
@@ -84,12 +77,12 @@ public final class SteppingTest {
         x.height(2, 75);
         x.car(0);
         x.go(0, 1);
-        speeds("1 up", x, 0, 1, 0);
+        CHECK.speeds("1 up", x, 0, 1, 0);
         CHECK.is("there", x.told(0, 0), 1);
         x.steps(40);
         x.go(0, 2);
         // 74 left: 20; 54: 37 + 17 = 54, below 40; then 17, then there.
-        speeds("74 up", x, 0, 20, 37, 17, 0);
+        CHECK.speeds("74 up", x, 0, 20, 37, 17, 0);
         CHECK.is("there", x.told(0, 0), 75);
     }
 
@@ -99,7 +92,7 @@ public final class SteppingTest {
         x.steps(10);
         CHECK.is("place", x.told(0, 0), 800);
         x.fire(0, 0);
-        speeds("brakes by g, turns", x, 0, 80, 60, 40, 20, 0, -20, -40);
+        CHECK.speeds("brakes by g, turns", x, 0, 80, 60, 40, 20, 0, -20, -40);
         CHECK.is("place", x.told(0, 0), 940);
         CHECK.is("no hard brake", x.wear(0, 2), 0);
         CarSteps y = oneCar(6, 0);
@@ -107,7 +100,7 @@ public final class SteppingTest {
         y.steps(12);
         CHECK.is("place", y.told(0, 0), 1000);
         y.fire(0, 1);
-        speeds("it is here and goes: brakes", y, 0, 80, 60, 40, 20, 0, -20);
+        CHECK.speeds("it is here and goes: brakes", y, 0, 80, 60, 40, 20, 0, -20);
         CHECK.is("place", y.told(0, 0), 1180);
     }
 
@@ -118,7 +111,7 @@ public final class SteppingTest {
         CHECK.is("place", x.told(0, 0), 700);
         // 300 left with speed 100: 100 + 80 + 60 + 40 + 20 is just enough.
         x.fire(0, 1);
-        speeds("just enough", x, 0, 100);
+        CHECK.speeds("just enough", x, 0, 100);
         CarSteps y = new CarSteps(6);
         y.height(1, 900);
         y.car(0);
@@ -126,7 +119,7 @@ public final class SteppingTest {
         y.steps(9);
         y.fire(0, 1);
         // 200 left: 80 + 60 + 40 + 20 is 200.
-        speeds("by g", y, 0, 80);
+        CHECK.speeds("by g", y, 0, 80);
         CarSteps z = new CarSteps(6);
         z.height(1, 820);
         z.car(0);
@@ -134,7 +127,7 @@ public final class SteppingTest {
         z.steps(9);
         z.fire(0, 1);
         // 120 left: 60 + 40 + 20; that falls by 40, which is b.
-        speeds("by b", z, 0, 60, 40, 20, 0);
+        CHECK.speeds("by b", z, 0, 60, 40, 20, 0);
         CHECK.is("there", z.told(0, 0), 820);
         CHECK.is("a hard fall", z.wear(0, 2), 1);
         CarSteps w = new CarSteps(6);
@@ -144,9 +137,9 @@ public final class SteppingTest {
         w.steps(9);
         w.fire(0, 1);
         // 119 left: none within b, so it brakes by g and passes.
-        speeds("none: by g", w, 0, 80, 60);
+        CHECK.speeds("none: by g", w, 0, 80, 60);
         CHECK.is("it passes", w.told(0, 0), 840);
-        speeds("behind it", w, 0, 40, 20, 0, -20, -40, -20, -1, 0);
+        CHECK.speeds("behind it", w, 0, 40, 20, 0, -20, -40, -20, -1, 0);
         CHECK.is("there", w.told(0, 0), 819);
         CHECK.is("brakes by g alone", w.wear(0, 2), 0);
     }
@@ -167,7 +160,7 @@ public final class SteppingTest {
         CHECK.is("too heavy", x.told(0, 0), 0);
         CHECK.is("too heavy, but the door is CLOSED", x.told(0, 3), 0);
         x.load(0, 0);
-        speeds("starts", x, 0, 20);
+        CHECK.speeds("starts", x, 0, 20);
     }
 
     private static void aboveItsLimit() {
@@ -175,12 +168,12 @@ public final class SteppingTest {
         x.go(0, 19);
         x.steps(10);
         x.inspect(0, 1);
-        speeds("falls to I by g", x, 0, 80, 60, 40, 20, 10, 10);
+        CHECK.speeds("falls to I by g", x, 0, 80, 60, 40, 20, 10, 10);
         CHECK.is("no hard fall", x.wear(0, 2), 0);
         x.slow(0, 5, 300);
-        speeds("I may be above V", x, 0, 30, 50, 70, 90, 110, 130);
+        CHECK.speeds("I may be above V", x, 0, 30, 50, 70, 90, 110, 130);
         x.inspect(0, CarSteps.OFF);
-        speeds("back to V", x, 0, 110, 100, 100);
+        CHECK.speeds("back to V", x, 0, 110, 100, 100);
     }
 
     private static void chain() {
@@ -190,12 +183,12 @@ public final class SteppingTest {
         x.contact(0, 2, true);
         CHECK.is("CHAIN", x.told(0, 2), 1);
         CHECK.is("wants nothing", x.told(0, 7), CarSteps.NONE);
-        speeds("brakes by b", x, 0, 60, 20, 0, 0);
+        CHECK.speeds("brakes by b", x, 0, 60, 20, 0, 0);
         CHECK.is("stands between floors", x.told(0, 0), 880);
         CHECK.is("falls above g", x.wear(0, 2), 2);
         CHECK.is("the call is kept", x.told(0, 5), 1);
         x.contact(0, 2, false);
-        speeds("goes on", x, 0, 20, 40);
+        CHECK.speeds("goes on", x, 0, 20, 40);
     }
 
     private static void chainHoldsTheDoor() {
@@ -232,7 +225,7 @@ public final class SteppingTest {
         CHECK.is("place", x.told(0, 0), 600);
         x.power(false);
         CHECK.is("the nearest", x.told(0, 7), 1000);
-        speeds("falls to R", x, 0, 80, 60, 40, 20, 5, 5);
+        CHECK.speeds("falls to R", x, 0, 80, 60, 40, 20, 5, 5);
         x.steps(38);
         CHECK.is("there", x.told(0, 0), 1000);
         CHECK.is("CLOSED until it stands", x.told(0, 3), 0);
@@ -251,7 +244,7 @@ public final class SteppingTest {
         CHECK.is("place", x.told(0, 0), 200);
         x.power(false);
         CHECK.is("the lower one of two as near", x.told(0, 7), 0);
-        speeds("behind it first, then ahead", x, 0, 60, 40);
+        CHECK.speeds("behind it first, then ahead", x, 0, 60, 40);
         CHECK.is("the wish changes on the way", x.told(0, 7), 400);
         CarSteps y = oneCar(3, 2);
         y.go(0, 0);
@@ -259,10 +252,10 @@ public final class SteppingTest {
         CHECK.is("place", y.told(0, 0), 1700);
         y.power(false);
         CHECK.is("the nearest is behind it", y.told(0, 7), 2000);
-        speeds("brakes", y, 0, -80, -60, -40, -20);
+        CHECK.speeds("brakes", y, 0, -80, -60, -40, -20);
         CHECK.is("as near as the upper one", y.told(0, 0), 1500);
         CHECK.is("the lower one", y.told(0, 7), 1000);
-        speeds("goes on down", y, 0, -5);
+        CHECK.speeds("goes on down", y, 0, -5);
     }
 
     private static void darkDoor() {
@@ -323,14 +316,14 @@ public final class SteppingTest {
         x.steps(5);
         CHECK.is("CLOSED", x.told(0, 3), 0);
         CHECK.is("it did not go before", x.told(0, 0), 2000);
-        speeds("down", x, 0, -20);
+        CHECK.speeds("down", x, 0, -20);
     }
 
     private static void inspection() {
         CarSteps x = oneCar(3, 1);
         x.go(0, 1);
         x.inspect(0, 1);
-        speeds("by I", x, 0, 10, 10);
+        CHECK.speeds("by I", x, 0, 10, 10);
         x.steps(98);
         CHECK.is("the highest floor", x.told(0, 0), 2000);
         x.steps(10);
@@ -338,9 +331,9 @@ public final class SteppingTest {
         CHECK.is("CLOSED", x.told(0, 3), 0);
         CHECK.is("no call is over", x.told(0, 5), 1);
         x.inspect(0, -1);
-        speeds("down", x, 0, -10);
+        CHECK.speeds("down", x, 0, -10);
         x.inspect(0, 0);
-        speeds("stops", x, 0, 0, 0);
+        CHECK.speeds("stops", x, 0, 0, 0);
         CHECK.is("place", x.told(0, 0), 1990);
         CarSteps y = oneCar(3, 1);
         y.open(0);
