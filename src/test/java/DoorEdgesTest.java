@@ -296,6 +296,18 @@ public final class DoorEdgesTest {
             doors("D at most", x, OPEN, places);
             closesIn("OPEN for 0 steps", x, 7);
         }
+        CarSteps again = open(4, 7, 6);
+        again.close(0);
+        again.steps(2);
+        again.open(0);
+        doors("OPENING again", again, OPENING, 3, OPEN, 4);
+        closesIn("the steps before do not count", again, 7);
+        CarSteps anew = open(4, 7, 6);
+        anew.close(0);
+        anew.steps(4);
+        anew.open(0);
+        doors("OPENING anew", anew, OPENING, 1, OPENING, 2, OPENING, 3, OPEN, 4);
+        closesIn("the steps before do not count", anew, 7);
     }
 
     // "OPEN: one step more; then it is CLOSING if .. it was OPEN for HOLD steps or more"

@@ -339,7 +339,7 @@ public final class PromiseEdgesTest {
         for (int k = 0; k < 8; k++) {
             x.go(0, floorOfCall(told++));
         }
-        while (told < 50) {
+        while (told < 40) {
             CHECK.is("the first of those that are left", x.told(0, 7), floorOfCall(over));
             for (int s = 0; s < 8 && x.wear(0, 5) == over; s++) {
                 x.steps(1);
@@ -350,8 +350,8 @@ public final class PromiseEdgesTest {
         }
         x.steps(100);
         CHECK.is("none is left", x.told(0, 5), 0);
-        CHECK.is("all are over", x.wear(0, 5), 50);
-        CHECK.is("it is at the last one", x.told(0, 6), floorOfCall(49));
+        CHECK.is("all are over", x.wear(0, 5), 40);
+        CHECK.is("it is at the last one", x.told(0, 6), floorOfCall(39));
         CHECK.is("no place is wanted", x.told(0, 7), NONE);
     }
 
