@@ -1,4 +1,4 @@
-/** "A STEP", LANDING and THE DOOR: each sentence at its edges, with the sentence above its test. */
+/** "A STEP", LANDING and THE DOOR: each sentence at its edges; the sentence stands above its test or the first of them. */
 public final class DoorEdgesTest {
     private static final int CLOSED = 0;
     private static final int OPENING = 1;

@@ -1,4 +1,4 @@
-/** "A STEP", from THE MODE to "It goes on by u": each sentence at its edges, with the sentence above its test. */
+/** "A STEP", from THE MODE to "It goes on by u": each sentence at its edges; the sentence stands above its test or the first of them. */
 public final class SpeedEdgesTest {
     private static final int OFF = CarSteps.OFF;
     private static final int NONE = CarSteps.NONE;
