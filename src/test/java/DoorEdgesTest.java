@@ -31,6 +31,7 @@ public final class DoorEdgesTest {
         openWithItsLoad();
         openWithABrokenBar();
         openInFire();
+        openStepsInEveryMode();
         openInDarkAndInspection();
         closingToPlaceZero();
         closingWithItsLoad();
@@ -210,9 +211,18 @@ public final class DoorEdgesTest {
             into(NORMAL, x);
             closesIn("one step by mode " + mode, x, 4);
         }
-        CarSteps last = open(2, 1, 0);
-        last.go(0, 1);
-        doors("HOLD 1: the step of its landing is one step", last, CLOSING, 2);
+        for (int hold : new int[] {0, 1}) {
+            CarSteps last = open(2, hold, 0);
+            last.go(0, 1);
+            doors("HOLD " + hold + ": the step of its landing is one step", last, CLOSING, 2);
+            CHECK.is("its call is over", last.wear(0, 5), 1);
+            doors("HOLD " + hold + ": on its way", last, CLOSING, 1, CLOSED, 0);
+            CarSteps twice = open(2, hold, 0);
+            twice.go(0, 1);
+            twice.go(0, 1);
+            doors("HOLD " + hold + ": the second call opens it", twice, CLOSING, 2, OPEN, 2, CLOSING, 2);
+            CHECK.is("behind CLOSING", twice.wear(0, 4), 1);
+        }
         CarSteps two = open(2, 2, 1);
         two.go(0, 1);
         doors("HOLD 2: held for one step more", two, OPEN, 2, CLOSING, 2);
@@ -374,8 +384,10 @@ public final class DoorEdgesTest {
     private static void openInFire() {
         CarSteps here = open(2, 0, 0);
         here.fire(0, 1);
+        doors("at the fire floor", here, OPEN, 2, OPEN, 2, OPEN, 2);
         here.steps(1000);
         CHECK.door("at the fire floor", here, 0, OPEN, 2);
+        CHECK.is("it was not OPENING again", here.wear(0, 4), 0);
         here.fire(0, 0);
         doors("not at the fire floor", here, CLOSING, 2, CLOSING, 1, CLOSED, 0);
         CarSteps held = open(2, 1000, 0);
@@ -387,6 +399,27 @@ public final class DoorEdgesTest {
         opening.open(0);
         opening.fire(0, 2);
         doors("OPENING to its end first", opening, OPENING, 1, OPEN, 2, CLOSING, 2);
+    }
+
+    // "OPEN: one step more" stands before any mode is named.
+    private static void openStepsInEveryMode() {
+        CarSteps fire = open(2, 5, 0);
+        fire.load(0, 1001);
+        fire.fire(0, 2);
+        doors("too heavy to leave", fire, OPEN, 2, OPEN, 2, OPEN, 2, OPEN, 2);
+        fire.load(0, 0);
+        fire.fire(0, NONE);
+        closesIn("steps in FIRE count", fire, 1);
+        CarSteps ride = open(2, 5, 0);
+        ride.inspect(0, 1);
+        doors("a ride waits for its door", ride, OPEN, 2, OPEN, 2, OPEN, 2, OPEN, 2);
+        ride.inspect(0, OFF);
+        closesIn("steps with INSPECTION count", ride, 1);
+        CarSteps dark = open(2, 5, 4);
+        dark.power(false);
+        doors("DARK is a landing", dark, OPEN, 2, OPEN, 2);
+        dark.power(true);
+        closesIn("0 steps and the one of the landing", dark, 4);
     }
 
     private static void openInDarkAndInspection() {
