@@ -1,7 +1,4 @@
-/**
- * A sentence that names no mode holds in each of them: the calls of the promises 4 to 16 and what a STEP says of every
- * car. One that names no door or way holds with each, too.
- */
+/** A sentence that names no mode holds in each of them: the calls of the promises 4 to 16 and what a STEP says. */
 public final class EveryModeTest {
     private static final int CLOSED = 0;
     private static final int OPENING = 1;
@@ -39,9 +36,6 @@ public final class EveryModeTest {
             fallsToItsLimit(mode);
         }
         brakesInChain();
-        toldWithEachDoor();
-        toldWhileItGoes();
-        doorToldWhileItGoes();
         CHECK.end();
     }
 
@@ -426,77 +420,6 @@ public final class EveryModeTest {
         into(mode, x, 0, 1, 1);
         CHECK.speeds("above its LIMIT in mode " + mode, x, 0, 180, 160, 140, 120, 100, 100);
         CHECK.is("no fall by more than g in mode " + mode, x.wear(0, 2), 0);
-    }
-
-    // Illegal state of a door that is not CLOSED names the call door alone.
-    private static void toldWithEachDoor() {
-        int[] stepsToClosed = {0, 7, 5, 1};
-        for (int state = CLOSED; state <= CLOSING; state++) {
-            CarSteps x = withDoor(state);
-            x.rates(0, 8, 7, 7);
-            x.slow(0, 3, 4);
-            CHECK.is("load with door " + state, x.load(0, 500), 0);
-            CHECK.is("most with door " + state, x.most(0, 500), 1000);
-            CHECK.is("bar with door " + state, x.beam(0, true), false);
-            CHECK.is("bar again with door " + state, x.beam(0, false), true);
-            CHECK.is("contact with door " + state, x.contact(0, 1, true), false);
-            CHECK.is("contact again with door " + state, x.contact(0, 1, false), true);
-            CHECK.is("fire with door " + state, x.fire(0, 2), NONE);
-            CHECK.is("fire again with door " + state, x.fire(0, NONE), 2);
-            CHECK.is("ride with door " + state, x.inspect(0, 1), OFF);
-            CHECK.is("ride again with door " + state, x.inspect(0, OFF), 1);
-            CHECK.door("unchanged by what is told", x, 0, state, placeIn(state));
-            if (stepsToClosed[state] > 0) {
-                x.steps(stepsToClosed[state]);
-            }
-            CHECK.door("then", x, 0, CLOSED, 0);
-            CHECK.is("call with door " + state, x.go(0, 2), 1);
-            CHECK.speeds("rates told with door " + state, x, 0, 7, 8, 8);
-        }
-    }
-
-    // Illegal state of a car that does not stand names the calls rates and open alone.
-    private static void toldWhileItGoes() {
-        CarSteps x = new CarSteps(2);
-        x.car(0);
-        x.go(0, 1);
-        x.steps(1);
-        CHECK.is("it goes", x.told(0, 1), 20);
-        x.slow(0, 3, 4);
-        x.door(0, 1, 2);
-        CHECK.is("call", x.go(0, 1), 2);
-        CHECK.is("close", x.close(0), false);
-        CHECK.is("bar", x.beam(0, true), false);
-        CHECK.is("contact", x.contact(0, 1, true), false);
-        CHECK.is("contact again", x.contact(0, 1, false), true);
-        CHECK.is("load", x.load(0, 2000), 0);
-        CHECK.is("most", x.most(0, 1500), 1000);
-        CHECK.is("fire", x.fire(0, 0), NONE);
-        CHECK.is("fire again", x.fire(0, NONE), 0);
-        CHECK.is("ride", x.inspect(0, -1), OFF);
-        CHECK.is("ride again", x.inspect(0, OFF), -1);
-        CHECK.is("a new car", x.car(1), 1);
-        CHECK.is("steps", x.steps(1), 2);
-        CHECK.is("it goes on", x.told(0, 1), 40);
-        CHECK.is("load told", x.load(0, 0), 2000);
-        CHECK.is("most told", x.most(0, 0), 1500);
-        CHECK.is("bar told", x.beam(0, false), true);
-    }
-
-    // "D .. and HOLD", told while it goes: its door is CLOSED.
-    private static void doorToldWhileItGoes() {
-        CarSteps x = new CarSteps(2);
-        x.car(0);
-        x.go(0, 1);
-        x.steps(14);
-        CHECK.is("it goes", x.told(0, 1), 20);
-        x.door(0, 1, 2);
-        x.steps(1);
-        CHECK.door("landed", x, 0, OPEN, 1);
-        x.steps(1);
-        CHECK.door("one step", x, 0, OPEN, 1);
-        x.steps(1);
-        CHECK.door("two steps", x, 0, CLOSING, 1);
     }
 
     private EveryModeTest() {
